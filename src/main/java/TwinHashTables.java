@@ -351,7 +351,7 @@ public final class TwinHashTables {
             return entry;
         }
 
-        // After releaseAll() the entries still stand in order with their keys: they come back one by one.
+        // After releaseAll() the entries still stand in order, by rising keys: they come back one by one.
         int takeAgain() {
             if (taken < 0 || taken >= MAX_KEYS) {
                 return NO_ENTRY;
@@ -416,7 +416,12 @@ public final class TwinHashTables {
             if (!isRow(row) || !isEntry(entry)) {
                 return;
             }
-            link(row, last[row], entry);
+            int end = last[row];
+            if (isEntry(end)) {
+                next[end] = entry;
+            } else {
+                first[row] = entry;
+            }
             next[entry] = NO_ENTRY;
             last[row] = entry;
             counts[row]++;
@@ -427,7 +432,11 @@ public final class TwinHashTables {
                 return;
             }
             int before = entryBefore(row, entry);
-            link(row, before, next[entry]);
+            if (isEntry(before)) {
+                next[before] = next[entry];
+            } else {
+                first[row] = next[entry];
+            }
             if (last[row] == entry) {
                 last[row] = before;
             }
@@ -436,6 +445,7 @@ public final class TwinHashTables {
 
         /** Moves all entries of a row, in their order, behind those of another one. */
         void pour(int from, int to) {
+            // Any bit does: both ways lead to the same row.
             deal(from, to, to, 0);
         }
 
@@ -496,14 +506,6 @@ public final class TwinHashTables {
                 walker = after(walker);
             }
             return before;
-        }
-
-        private void link(int row, int before, int entry) {
-            if (isEntry(before)) {
-                next[before] = entry;
-            } else if (isRow(row)) {
-                first[row] = entry;
-            }
         }
 
         private int firstOf(int row) {
