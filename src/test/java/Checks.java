@@ -21,7 +21,11 @@ final class Checks {
         }
     }
 
-    private static String outcome(IntSupplier call) {
+    int made() {
+        return passed + failed;
+    }
+
+    static String outcome(IntSupplier call) {
         try {
             return "answer " + call.getAsInt();
         } catch (RuntimeException e) {
