@@ -98,16 +98,14 @@ final class StoreCases extends Cases {
             TwinHashTables has = state.get();
             unchanged("the same value again", state, y -> has.size() == 0 ? 0 : y.put(key(2), 2));
         }
-        TwinHashTables due = with(upTo(8));
-        due.setLoads(0, 50);
-        due.put(key(3), 33);
-        due("no linear bucket is split, whatever the high load", linearShape(due), List.of(4, 2, 0));
-        due.setLoads(50, 200);
-        remove(due, 0, 4);
-        due.setLoads(50, 100);
-        due.rebuild(5);
-        due.put(key(3), 34);
-        due("nor taken back, whatever the low load", List.of(linearShape(due), due.get(key(3))), List.of(List.of(2, 1, 0), 34));
+        TwinHashTables loaded = with(upTo(8));
+        loaded.setLoads(0, 50);
+        loaded.put(key(3), 33);
+        due("no linear bucket is split: 800 are more than 50 * 4 * 3", linearShape(loaded), List.of(4, 2, 0));
+        TwinHashTables few = few();
+        few.put(key(3), 34);
+        due("nor taken back: 700 are fewer than 50 * 5 * 3", List.of(linearShape(few), few.get(key(3))),
+            List.of(List.of(5, 2, 1), 34));
         TwinHashTables full = full();
         due("in a full store", List.of(full.put(key(119), 5), full.put(key(0), 6), full.get(key(119)), full.size()),
             List.of(119, 0, 5, 120));
